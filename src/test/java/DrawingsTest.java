@@ -142,6 +142,13 @@ public final class DrawingsTest {
         Due.is("20: NONE is no finding", h.finding(), found);
         Due.lay(h, 0, 3, 2, 0, 1);
         Due.is("20: last of six", h.number(0), 5);
+        h.rules(0);
+        Due.lay(h, 1, 2, 3, 0, 1);
+        Due.is("20: fifth", h.number(1), 4);
+        h.year(1);
+        h.rules(2);
+        Due.is("18: four are left by years", h.ways(), 4);
+        Due.is("20: that of the year is not", h.number(1), HatDraw.NONE);
         Due.is("20: BAD below", h.number(-1), HatDraw.BAD);
         Due.is("20: BAD above", h.number(6), HatDraw.BAD);
         Due.refused("20: NOTHING", h, h.digest(), h.number(5), NOTHING);

@@ -96,6 +96,9 @@ public final class OfficeTest {
         Due.is("13: boss", h.mark(1, 1), 4);
         Due.is("13: porter as boss", h.mark(5, 1), 0);
         Due.is("13: shy, 5 and 7 are greater", h.mark(3, 3), 2);
+        HatDraw shy = Due.office("m19 s10 s29 m20 m31");
+        Due.is("13: all whose worth is greater", shy.mark(1, 3), 3);
+        Due.is("13: none is", shy.mark(2, 3), 0);
         Due.is("13: BAD kind 0", h.mark(0, 0), HatDraw.BAD);
         Due.is("13: BAD kind below", h.mark(0, -1), HatDraw.BAD);
         Due.is("13: BAD kind above", h.mark(0, 6), HatDraw.BAD);

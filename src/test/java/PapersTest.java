@@ -44,6 +44,12 @@ public final class PapersTest {
         Due.is("24: 2", h.drew(2), 0);
         Due.is("24: BAD below", h.drew(-1), HatDraw.BAD);
         Due.is("24: BAD above", h.drew(3), HatDraw.BAD);
+        h = four(0);
+        h.draw(3);
+        Due.is("22: drawn by 0", h.draw(3), HatDraw.STATE);
+        h.draw(2);
+        Due.is("22: drawn by 1", h.draw(2), HatDraw.STATE);
+        Due.is("22: drawn by 0, still", h.draw(3), HatDraw.STATE);
         h = Due.office("m11 m12 m33");
         Due.is("22: barred by tables", h.draw(1), HatDraw.STATE);
         Due.lay(h, 0, 2, 0, 1);
@@ -116,6 +122,9 @@ public final class PapersTest {
         h.rules(1);
         h.can();
         Due.is("25: not by other rules", h.asked(), 0);
+        HatDraw two = Due.office("m11 m22");
+        two.rules(0);
+        Due.is("25: the only one", two.can(), 2);
         HatDraw none = new HatDraw();
         Due.is("25: without mates", none.can(), 0);
         Due.is("25: the empty one", none.asked(), 1);
@@ -210,6 +219,10 @@ public final class PapersTest {
         h.draw(2);
         Due.is("28: from a hat", h.play(1), 4);
         drewAll("28: from a hat", h, 2, 3, 0, 1);
+        h = Due.office("m11 m22 m33 m44 m55 m66");
+        Due.is("28: six", h.play(1), 6);
+        h.can();
+        Due.is("28: it came out", h.asked(), 1);
         h = four(0);
         h.draw(1);
         h.draw(0);

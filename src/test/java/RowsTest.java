@@ -124,6 +124,9 @@ public final class RowsTest {
         Due.told("7: great ones", h, h.mean(0), 2147483647);
         Due.lay(h, 0, -2147483648, -2147483648);
         Due.told("7: small ones", h, h.mean(0), -2147483648);
+        h.row(3, 40);
+        h.lay(3, 39, 80);
+        Due.told("7: forty", h, h.mean(3), 2);
         h.row(1, 0);
         Due.refused("7: NOUGHT", h, h.digest(), h.mean(1), NOUGHT);
         Due.refused("7: NOTHING", h, h.digest(), h.mean(2), NOTHING);
@@ -174,10 +177,17 @@ public final class RowsTest {
             Due.write(h, 0, faulty[k]);
             Due.is("10: '" + faulty[k] + "'", h.fault(0), places[k]);
         }
+        h.text(1, 60);
+        Due.is("10: sixty blanks", h.fault(1), HatDraw.NONE);
+        h.put(1, 59, 109);
+        Due.is("10: a letter at the end", h.fault(1), 60);
+        h.put(1, 58, 109);
+        h.put(1, 59, 49);
+        Due.is("10: a table at the end", h.fault(1), 60);
         Due.write(h, 0, "m12");
         h.put(0, 0, -19);
         Due.is("10: a byte below 0", h.fault(0), 0);
-        Due.refused("10: NOTHING", h, h.digest(), h.fault(1), NOTHING);
+        Due.refused("10: NOTHING", h, h.digest(), h.fault(2), NOTHING);
         Due.is("10: BAD below", h.fault(-1), HatDraw.BAD);
         Due.is("10: BAD above", h.fault(4), HatDraw.BAD);
     }

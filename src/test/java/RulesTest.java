@@ -66,6 +66,13 @@ public final class RulesTest {
         Due.is("40: two, anyway", h.asked(), 2);
         Due.is("40: BAD below", h.table(-1), HatDraw.BAD);
         Due.is("40: BAD above", h.table(3), HatDraw.BAD);
+        Due.lay(h, 0, 1, 2, 0);
+        h.year(0);
+        h.table(0);
+        Due.is("40: a year told counts, too, without its rule", h.asked(), 2);
+        h.rules(2);
+        h.table(0);
+        Due.is("40: by the rule it is barred", h.asked(), 1);
         HatDraw far = Due.office("b01 b11 b21 b31 b41 m51");
         far.rules(0);
         Due.is("40: a sixth table", far.table(5), 5);
@@ -159,6 +166,9 @@ public final class RulesTest {
         }
         Due.lay(h, 0, 0, 1, 3, 2);
         Due.told("44: right or not", h, h.gain(0, 0), 0);
+        HatDraw alone = Due.office("m17");
+        Due.lay(alone, 0, 0);
+        Due.told("44: of one mate", alone, alone.gain(0, 0), 0);
         Due.is("44: BAD row below", h.gain(-1, 0), HatDraw.BAD);
         Due.is("44: BAD row above", h.gain(6, 0), HatDraw.BAD);
         Due.is("44: BAD mate below", h.gain(0, -1), HatDraw.BAD);

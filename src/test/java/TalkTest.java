@@ -30,6 +30,8 @@ public final class TalkTest {
         Due.is("37: three fit", h.asked(), 3);
         Due.is("37: one alone", h.still(0, 8), 3);
         Due.is("37: all fit", h.asked(), 9);
+        Due.is("37: any of all", h.still(0, 15), 0);
+        Due.is("37: one fits", h.asked(), 1);
         h.at(0, 0);
         Due.is("37: an empty set", h.still(0, 0), HatDraw.NONE);
         Due.is("45: NONE tells nothing", h.asked(), 2);

@@ -23,6 +23,10 @@ public final class YearsTest {
         h.tear(0);
         Due.told("31: it stays without the row", h, h.mate(2, 3), 2);
         Due.is("31: two", h.count(2), 2);
+        HatDraw alone = Due.office("m11");
+        Due.lay(alone, 0, 0);
+        Due.is("31: of one mate", alone.year(0), 0);
+        Due.told("31: who drew oneself", alone, alone.mate(0, 3), 0);
     }
 
     private static void yearRefused() {
@@ -88,6 +92,13 @@ public final class YearsTest {
         Due.is("33: that of all years, not of the latest alone", h.run(), 1);
         h.rules(0);
         Due.is("33: without rules none twice either", h.run(), 1);
+        h.rules(7);
+        h.forget(1);
+        Due.lay(h, 0, 2, 0, 1);
+        h.year(0);
+        Due.is("33: both are told", h.run(), 0);
+        h.forget(1);
+        Due.is("33: forgotten is not had", h.run(), 1);
         HatDraw two = Due.office("n11 n22");
         Due.is("33: back", two.run(), 0);
         two.rules(2);
