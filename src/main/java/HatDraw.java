@@ -59,8 +59,8 @@ public final class HatDraw {
         texts = new Texts();
         here = new Office();
         trial = new Office();
-        right = new Search(here);
-        tried = new Search(trial);
+        right = new Search();
+        tried = new Search();
         keptHats = new int[MOST_KEPT];
         keptDrawn = new int[MOST_KEPT];
         keptRules = new int[MOST_KEPT];
@@ -485,7 +485,7 @@ public final class HatDraw {
         }
         trial.become(here);
         for (int k = 0; k < MOST_RUN; k++) {
-            if (tried.list(1, true) == 0) {
+            if (tried.list(trial, 1, true) == 0) {
                 return k;
             }
             trial.addYear(tried.codes[0]);
@@ -591,7 +591,7 @@ public final class HatDraw {
             boolean more = best == NONE || Integer.bitCount(left) > Integer.bitCount(best);
             if (part && more) {
                 trial.rules = left;
-                if (tried.list(1, false) > 0) {
+                if (tried.list(trial, 1, false) > 0) {
                     best = left;
                 }
             }
@@ -612,7 +612,7 @@ public final class HatDraw {
         int most = -1;
         for (int seat = 0; seat <= LAST_FIGURE; seat++) {
             trial.tables[x] = seat;
-            int found = tried.list(MOST_RIGHT, false);
+            int found = tried.list(trial, MOST_RIGHT, false);
             if (found > most) {
                 most = found;
                 best = seat;
@@ -805,7 +805,7 @@ public final class HatDraw {
 
     private void listRight() {
         if (stale) {
-            right.list(MOST_RIGHT, false);
+            right.list(here, MOST_RIGHT, false);
             stale = false;
         }
     }
@@ -1198,7 +1198,7 @@ public final class HatDraw {
         }
 
         boolean breaksRing(int code) {
-            return isFor(RULE_RING) && ringCount(code, size) > 1;
+            return isFor(RULE_RING) && size > 0 && Integer.bitCount(ringOf(code, 0)) < size;
         }
 
         int othersAtTable(int x) {
@@ -1265,48 +1265,41 @@ public final class HatDraw {
     private static final class Search {
         final int[] codes;
         int found;
-        private final Office office;
         private final int[] open;
         private int wanted;
         private boolean newOnly;
 
-        Search(Office searched) {
-            office = searched;
+        Search() {
             codes = new int[MOST_RIGHT];
             open = new int[MOST_MATES];
         }
 
         /** Lists the first ones, as many as are wanted; perhaps those alone that no year had. */
-        int list(int most, boolean noYears) {
+        int list(Office office, int most, boolean noYears) {
             found = 0;
             wanted = Math.min(most, MOST_RIGHT);
             newOnly = noYears;
             for (int x = 0; x < office.size; x++) {
                 open[x] = office.open(x);
             }
-            extend(0, 0, 0);
+            extend(this, office, 0, 0, 0);
             return found;
         }
 
-        private void extend(int x, int taken, int code) {
+        private static void extend(Search list, Office office, int x, int taken, int code) {
             if (x >= office.size || x >= MOST_MATES) {
-                admit(code);
+                if (list.found < list.wanted && !office.breaksRing(code) && !(list.newOnly && office.hadYear(code))) {
+                    list.codes[list.found] = code;
+                    list.found++;
+                }
                 return;
             }
-            int free = open[x] & ~taken;
-            for (int y = 0; y < office.size && found < wanted; y++) {
+            int free = list.open[x] & ~taken;
+            for (int y = 0; y < office.size && list.found < list.wanted; y++) {
                 if ((free >> y & 1) != 0 && !office.drawsBack(x, y, code)) {
-                    extend(x + 1, taken | 1 << y, code | y << 3 * x);
+                    extend(list, office, x + 1, taken | 1 << y, code | y << 3 * x);
                 }
             }
-        }
-
-        private void admit(int code) {
-            if (found >= wanted || office.breaksRing(code) || newOnly && office.hadYear(code)) {
-                return;
-            }
-            codes[found] = code;
-            found++;
         }
 
         boolean fitsAt(int i, int code, int mask) {
@@ -1352,14 +1345,14 @@ public final class HatDraw {
                 return 0;
             }
             // the list goes by first numbers: those that begin alike stand side by side
-            return shareOf(from, from + fitting(hat, mask), drawn, who, whom, WHOLE);
+            return shareOf(codes, from, from + fitting(hat, mask), drawn, who, whom, WHOLE);
         }
 
-        private int shareOf(int from, int to, int x, int who, int whom, int weight) {
+        private static int shareOf(int[] codes, int from, int to, int x, int who, int whom, int weight) {
             if (x > who || x >= MOST_MATES) {
                 return 0;
             }
-            int parts = partsAt(from, to, x);
+            int parts = partsAt(codes, from, to, x);
             if (parts == 0) {
                 return 0;
             }
@@ -1369,7 +1362,7 @@ public final class HatDraw {
             for (int i = from + 1; i <= to; i++) {
                 if (i == to || paper(codes[i], x) != paper(codes[start], x)) {
                     if (x < who) {
-                        sum += shareOf(start, i, x + 1, who, whom, each);
+                        sum += shareOf(codes, start, i, x + 1, who, whom, each);
                     } else if (paper(codes[start], x) == whom) {
                         sum += each;
                     }
@@ -1379,7 +1372,7 @@ public final class HatDraw {
             return sum;
         }
 
-        private int partsAt(int from, int to, int x) {
+        private static int partsAt(int[] codes, int from, int to, int x) {
             int parts = 0;
             for (int i = from; i < to; i++) {
                 if (i == from || paper(codes[i], x) != paper(codes[i - 1], x)) {
