@@ -1,10 +1,15 @@
 import java.io.IOException;
 import java.lang.reflect.Method;
+import java.lang.reflect.Modifier;
 import java.nio.file.Files;
 import java.nio.file.Path;
 import java.util.ArrayList;
 import java.util.Arrays;
 import java.util.List;
+import java.util.Set;
+import java.util.TreeSet;
+import java.util.regex.Matcher;
+import java.util.regex.Pattern;
 
 /** Each test of a sentence quotes the document's own words, and no words of the document are without a test. */
 public final class DocumentTest {
@@ -21,6 +26,7 @@ public final class DocumentTest {
         }
         String document = Files.readString(DOCUMENT).replaceAll("\\s+", " ");
         List<Sentence> sentences = sentences();
+        face(document);
         quoted(document, sentences);
         told(0, terms(document), sentences);
         for (int promise = 1; promise <= PROMISES; promise++) {
@@ -60,6 +66,24 @@ public final class DocumentTest {
     private static String terms(String document) {
         String terms = between(document, "## Terms", "Ahead of the calls");
         return terms.replace("```text", "").replace("```", "").replaceAll("======== [1-3]?", "");
+    }
+
+    /** Each call stands in the class as the document has it, and the class has no other one. */
+    private static void face(String document) {
+        Matcher call = Pattern.compile("public (int|long) (\\w+)\\(([^)]*)\\);").matcher(between(document, "## The public face", "## Terms"));
+        Set<String> due = new TreeSet<>();
+        while (call.find()) {
+            due.add(call.group(1) + " " + call.group(2) + "(" + call.group(3).replaceAll("int \\w+", "int").replace(" ", "") + ")");
+        }
+        Set<String> open = new TreeSet<>();
+        for (Method method : HatDraw.class.getDeclaredMethods()) {
+            if (Modifier.isPublic(method.getModifiers())) {
+                String types = Arrays.toString(method.getParameterTypes()).replaceAll("[\\[\\] ]", "");
+                open.add(method.getReturnType() + " " + method.getName() + "(" + types + ")");
+            }
+        }
+        Due.is("the face " + due + " as the class has it " + open, due.equals(open) ? 1 : 0, 1);
+        Due.is("a call a promise, but for that of a new object", due.size(), PROMISES - 1);
     }
 
     private static void quoted(String document, List<Sentence> sentences) {

@@ -201,6 +201,14 @@ public final class EdgesOfYearsTest {
         Due.is("one twice", h.run(), 8);
         h.forget(0);
         Due.is("those forgotten are not told", h.run(), 9);
+        HatDraw three = Due.office("m11 m22 m33");
+        three.rules(0);
+        for (int i = 0; i < 2; i++) {
+            three.nth(i, 0);
+            three.year(0);
+        }
+        three.forget(1);
+        Due.is("nor is the one of two", three.run(), 1);
     }
 
     @Sentence(promise = 33, says = "30 at most;")

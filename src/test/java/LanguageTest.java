@@ -7,7 +7,9 @@ import java.nio.file.Files;
 import java.nio.file.Path;
 import java.util.ArrayList;
 import java.util.List;
+import java.util.Map;
 import java.util.Set;
+import java.util.TreeMap;
 import java.util.TreeSet;
 import java.util.regex.Matcher;
 import java.util.regex.Pattern;
@@ -92,23 +94,53 @@ public final class LanguageTest {
                 Due.is("rule 4: sign at " + i, text.charAt(i), 126);
             }
         }
-        lengths(text.split("\n"));
+        depths(methods(text.split("\n")));
         makers(code);
     }
 
-    /** From the line that opens a method to the brace at the same depth. */
-    private static void lengths(String[] lines) {
-        Pattern opening = Pattern.compile("^( {4}| {8})(?!return|if|for|while|else|switch)[\\w\\[\\]]+.*\\) \\{$");
+    /** The methods by their names, each from the line that opens it to the brace at the same depth. */
+    private static Map<String, String> methods(String[] lines) {
+        Pattern opening = Pattern.compile("^( {4}| {8})(?! |return|if|for|while|else|switch)[\\w\\[\\] ]*?(\\w+)\\(.*\\) \\{$");
+        Map<String, String> bodies = new TreeMap<>();
         for (int i = 0; i < lines.length; i++) {
             Matcher m = opening.matcher(lines[i]);
             if (!m.find()) {
                 continue;
             }
+            StringBuilder body = new StringBuilder();
             int end = i;
-            while (end < lines.length && !lines[end].equals(m.group(1) + "}")) {
+            while (end + 1 < lines.length && !lines[end].equals(m.group(1) + "}")) {
                 end++;
+                body.append(lines[end]).append('\n');
             }
             Due.is("rule 11: lines of " + lines[i].trim(), end - i + 1 <= 60 ? 1 : 0, 1);
+            bodies.merge(m.group(2), body.toString(), String::concat);
+        }
+        return bodies;
+    }
+
+    /** How many methods are open at once from one on; one that calls itself is counted once. */
+    private static int depth(String name, Map<String, String> bodies, Map<String, Integer> depths) {
+        if (depths.containsKey(name)) {
+            return depths.get(name);
+        }
+        depths.put(name, 0);
+        int most = 0;
+        for (String called : bodies.keySet()) {
+            if (Pattern.compile("\\b" + called + "\\(").matcher(bodies.get(name)).find()) {
+                most = Math.max(most, depth(called, bodies, depths));
+            }
+        }
+        depths.put(name, most + 1);
+        return most + 1;
+    }
+
+    private static void depths(Map<String, String> bodies) {
+        Due.is("methods are found", bodies.size() > 80 ? 1 : 0, 1);
+        Map<String, Integer> depths = new TreeMap<>();
+        for (String name : bodies.keySet()) {
+            int deep = depth(name, bodies, depths);
+            Due.is("rule 11: calls from " + name + " on go " + deep + " deep", deep <= 8 ? 1 : 0, 1);
         }
     }
 
