@@ -1,3 +1,5 @@
+import java.util.Arrays;
+
 /** Promises 22 to 30, sentence by sentence: papers one by one. */
 public final class EdgesOfPapersTest {
     private static final int NOTHING = 1, NOUGHT = 4;
@@ -132,7 +134,7 @@ public final class EdgesOfPapersTest {
             int[] papers = {1, 2, 3, 0};
             drawAll(h, papers);
             Due.is("from " + n + " on", h.undo(n), 4 - n);
-            drew("from " + n + " on", h, java.util.Arrays.copyOf(papers, n));
+            drew("from " + n + " on", h, Arrays.copyOf(papers, n));
             Due.is("none is left to go", h.undo(n), 0);
         }
         HatDraw h = Refusals.four(0);
@@ -369,7 +371,7 @@ public final class EdgesOfPapersTest {
     static void playedOn() {
         for (int had = 1; had <= 4; had++) {
             HatDraw h = Refusals.four(1);
-            drawAll(h, java.util.Arrays.copyOf(new int[] {2, 3, 1, 0}, had));
+            drawAll(h, Arrays.copyOf(new int[] {2, 3, 1, 0}, had));
             // the first lot is the next one's, not that of mate 0
             int[] due = Lots.played(h, 7);
             Due.is("on from " + had, h.play(7), 4);

@@ -266,7 +266,7 @@ public final class EdgesOfTermsTest {
             h.rules(rules[k]);
             Due.is("ways by rules " + rules[k], h.ways(), ways[k]);
         }
-        Due.is("all four: 1032, 2310, .. are left by none", rulesWays(h, 15), 0);
+        Due.is("all four leave none", rulesWays(h, 15), 0);
         Due.is("tables and years: 3210", rulesWays(h, 6), 1);
         Due.is("back, tables: 2310, 3201", rulesWays(h, 5), 2);
     }
